@@ -57,6 +57,8 @@ final class ProgramSentences {
     static void promise10_aGroupHasBothBracketsAndMayBeEmpty() {
         succeeds("()", 0);
         succeeds("9()", 0);
+        succeeds(repeated("()", 40), 0);
+        succeeds(repeated("((()))", 13) + "()", 0);
         succeeds("(x;)", 1);
         succeeds("3(x;t1;)", 6);
         fails("(", 1);

@@ -930,16 +930,19 @@ public final class PromiseTest {
 
     private static void nearer() {
         promise = "15";
-        TwinPlates x = new TwinPlates();
         int[] sides = {0, 0, 0, 0, 0, 0, 1, 1, 1, 1, 1, 1};
         int[] ticks = {0, 1, 2, 3, 4, 5, 0, 1, 2, 3, 4, 5};
+        TwinPlates x = new TwinPlates();
         for (int tick = 0; tick < 26; tick++) {
+            x = new TwinPlates();
+            for (int passed = 0; passed < tick; passed++) {
+                x.pass(1);
+            }
             for (int sector = 0; sector < 12; sector++) {
                 int ahead = Math.floorMod(sector - tick, 12);
                 due("tick " + tick + " nearer(" + sector + ", 0)", x.nearer(sector, 0), sides[ahead]);
                 due("tick " + tick + " nearer(" + sector + ", 1)", x.nearer(sector, 1), ticks[ahead]);
             }
-            x.pass(1);
         }
         int[][] wrong = {{-1, 0}, {12, 0}, {0, -1}, {0, 2}, {LEAST, 0}, {GREATEST, 0}, {0, LEAST}, {0, GREATEST}};
         for (int[] w : wrong) {

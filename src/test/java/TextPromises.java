@@ -66,6 +66,9 @@ final class TextPromises {
         new Run().text("t5;x;").due("run() = 2", "count(14) = 5", "run() = 2", "count(0) = 10", "clearText() = 5");
         new Run().text("t5;y;").due("run() = -1003", "count(14) = 5", "run() = -1003").text("t5;t0;")
                 .due("run() = -1003", "count(14) = 6", "run() = -1003", "clearText() = 6");
+        // A run that failed with groups open, or with too many acts, leaves nothing to the next one.
+        new Run().text("(((x;").due("run() = -1005", "run() = -1005").text("(((x;)))").due("run() = 1", "run() = 1")
+                .text("x;)").due("run() = -1002").text("9(9(9(x;)))").due("run() = -1006").text("9(9(x;))").due("run() = 81");
     }
 
     @Sentence(head = RUN, says = "If it does not fail, this is one action, also without acts.")
