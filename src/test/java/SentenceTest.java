@@ -25,9 +25,11 @@ public final class SentenceTest {
         PlatesSentences.class, TickSentences.class, CutSentences.class, ProgramSentences.class, UndoSentences.class,
         ErrorSentences.class, OrderPromises.class, TimePromises.class, TextPromises.class, LookPromises.class,
         ForecastPromises.class};
+    private static final Path TESTS = Path.of("src/test/java");
     private static final int PROMISES = 18;
     private static final Set<String> HEADS_WITHOUT_TESTS =
             Set.of("TwinPlates", "What it is", "The public face", "Terms", "Not promised");
+    private static final Pattern MARKED = Pattern.compile("(?m)^ +@Sentence\\(");
     private static final Pattern NAME = Pattern.compile("promise(\\d+)(?:To(\\d+))?_\\w+");
 
     private SentenceTest() {
@@ -36,6 +38,7 @@ public final class SentenceTest {
     public static void main(String[] args) throws IOException {
         Path document = Path.of(args.length > 1 ? args[1] : "../shared/DOC.md");
         List<Method> tests = tests();
+        looksAtHolders();
         looksAtNames(tests);
         looksAtQuotes(tests, sections(Files.readAllLines(document)));
         for (Method test : tests) {
@@ -68,6 +71,26 @@ public final class SentenceTest {
             Due.holds("it can be called: " + refused, false);
         }
         Due.holds("it looks at an answer", Due.checked() > before);
+    }
+
+    /** A file that HOLDERS doesn't name, and a test there that quotes no sentence, would never be run. */
+    private static void looksAtHolders() throws IOException {
+        Due.begin("all tests");
+        Set<String> held = new HashSet<>();
+        for (Class<?> holder : HOLDERS) {
+            held.add(holder.getName());
+            for (Method method : holder.getDeclaredMethods()) {
+                Due.holds(method.getName() + " quotes a sentence",
+                        method.isAnnotationPresent(Sentence.class) || !NAME.matcher(method.getName()).matches());
+            }
+        }
+        try (var files = Files.list(TESTS)) {
+            for (Path file : files.toList()) {
+                boolean hasTests = MARKED.matcher(Files.readString(file)).find();
+                String name = file.getFileName().toString().replace(".java", "");
+                Due.is(name + " in HOLDERS", held.contains(name) ? 1 : 0, hasTests ? 1 : 0);
+            }
+        }
     }
 
     private static void looksAtNames(List<Method> tests) {
